@@ -17,6 +17,7 @@ public final class FollowTheSun {
     // A value asked at the last hour looks as far as 98 hours behind hour 2400.
     private static final int TABLE_HOURS = 2500;
     private static final int HOURS_OF_DAY = 24;
+    private static final int WHOLE_DAY = (1 << HOURS_OF_DAY) - 1;
     private static final int MOST_DAYS = 100;
     private static final int MOST_HOURS_AT_ONCE = 500;
 
@@ -882,6 +883,8 @@ public final class FollowTheSun {
         final int[] known = new int[MOST_OFFICES * MOST_OFFICES];
         // Of each hour the offices at work, as bits: the walks look there again and again.
         final int[] work = new int[TABLE_HOURS];
+        // Of each office and hour: in which of the 24 hours from it on it is at work, as bits.
+        final int[] ahead = new int[MOST_OFFICES * TABLE_HOURS];
         int count = 0;
         int lose = 4;
         int miss = 10;
@@ -901,6 +904,12 @@ public final class FollowTheSun {
             int bit = 1 << office;
             for (int h = Math.max(from, 0); h < to && h < TABLE_HOURS; h++) {
                 work[h] = offices[office].atWork(h) ? work[h] | bit : work[h] & ~bit;
+            }
+            int first = office * TABLE_HOURS;
+            int last = Math.min(to, TABLE_HOURS) - 1;
+            for (int h = last; h >= 0 && h > from - HOURS_OF_DAY; h--) {
+                int behind = h + 1 < TABLE_HOURS ? ahead[first + h + 1] << 1 : 0;
+                ahead[first + h] = (behind & WHOLE_DAY) | ((work[h] >> office) & 1);
             }
         }
 
@@ -942,14 +951,7 @@ public final class FollowTheSun {
         }
 
         int overlapFrom(int a, int b, int hour) {
-            int both = (1 << a) | (1 << b);
-            int hours = 0;
-            for (int h = hour; h < hour + HOURS_OF_DAY && h < TABLE_HOURS; h++) {
-                if ((work[h] & both) == both) {
-                    hours++;
-                }
-            }
-            return hours;
+            return Integer.bitCount(ahead[a * TABLE_HOURS + hour] & ahead[b * TABLE_HOURS + hour]);
         }
 
         int lostFrom(int a, int b, int hour) {
@@ -958,13 +960,8 @@ public final class FollowTheSun {
             }
             int less = lose - known[a * MOST_OFFICES + b];
             int lost = less > 0 ? less : 0;
-            int both = (1 << a) | (1 << b);
-            for (int h = hour; h < hour + HOURS_OF_DAY && h < TABLE_HOURS; h++) {
-                if ((work[h] & both) == both) {
-                    return lost;
-                }
-            }
-            return lost + LOST_APART;
+            int both = ahead[a * TABLE_HOURS + hour] & ahead[b * TABLE_HOURS + hour];
+            return both == 0 ? lost + LOST_APART : lost;
         }
 
         int wrongBetween(int a, int b) {
@@ -973,9 +970,11 @@ public final class FollowTheSun {
 
         /** In how many hours from one on an office is at work next. */
         int nextWork(int office, int hour) {
-            for (int i = 0; i < FARTHEST_WORK && hour + i < TABLE_HOURS; i++) {
-                if (((work[hour + i] >> office) & 1) == 1) {
-                    return i;
+            int first = office * TABLE_HOURS + hour;
+            for (int i = 0; i < FARTHEST_WORK && hour + i < TABLE_HOURS; i += HOURS_OF_DAY) {
+                if (ahead[first + i] != 0) {
+                    int next = i + Integer.numberOfTrailingZeros(ahead[first + i]);
+                    return next < FARTHEST_WORK ? next : FARTHEST_WORK;
                 }
             }
             return FARTHEST_WORK;
@@ -1538,8 +1537,6 @@ public final class FollowTheSun {
         private final int[] left = new int[MOST_WAYS];
         private final int[] pay = new int[MOST_CHEAP_WAYS * (MOST_CHEAP_LEFT + 1)];
         private final int[] lost = new int[MOST_OFFICES * MOST_OFFICES];
-        // Of two offices an hour ahead of which, from the hour looked at on, both are never at work.
-        private final int[] apart = new int[MOST_OFFICES * MOST_OFFICES];
 
         Ways(Earth earth) {
             this.earth = earth;
@@ -1574,7 +1571,9 @@ public final class FollowTheSun {
         /** The soonest hour to the limit, and in best its row; NEVER if there is none. */
         int soonest(Pieces pieces, int piece, int hour, int lose, int limit) {
             int able = earth.officesWith(pieces.craft[piece]);
-            Arrays.fill(apart, 0);
+            if (able == 0) {
+                return NEVER;
+            }
             Arrays.fill(left, FAR);
             left[0] = pieces.length[piece];
             for (int h = hour; h < limit; h++) {
@@ -1601,7 +1600,6 @@ public final class FollowTheSun {
         int cheapest(Pieces pieces, int piece, int hour, int end) {
             int able = earth.officesWith(pieces.craft[piece]);
             int n = Math.min(count, MOST_CHEAP_WAYS);
-            Arrays.fill(apart, 0);
             Arrays.fill(pay, FAR);
             pay[pieces.length[piece]] = 0;
             for (int h = hour; h < end; h++) {
@@ -1647,20 +1645,15 @@ public final class FollowTheSun {
             }
         }
 
-        /** What is lost between all offices from an hour on; hours must come in order. */
+        /** What is lost between all offices from an hour on, if it was for that LOSE. */
         private void loseFrom(int hour, int lose) {
+            int[] ahead = earth.ahead;
             for (int a = 0; a < earth.count; a++) {
                 for (int b = a + 1; b < earth.count; b++) {
                     int ab = a * MOST_OFFICES + b;
-                    int both = (1 << a) | (1 << b);
-                    int h = Math.max(apart[ab], hour);
-                    while (h < hour + HOURS_OF_DAY && (earth.work[h] & both) != both) {
-                        h++;
-                    }
-                    apart[ab] = h;
+                    int both = ahead[a * TABLE_HOURS + hour] & ahead[b * TABLE_HOURS + hour];
                     int less = lose - earth.known[ab];
-                    int more = h < hour + HOURS_OF_DAY ? 0 : LOST_APART;
-                    lost[ab] = (less > 0 ? less : 0) + more;
+                    lost[ab] = (less > 0 ? less : 0) + (both == 0 ? LOST_APART : 0);
                     lost[b * MOST_OFFICES + a] = lost[ab];
                 }
             }
