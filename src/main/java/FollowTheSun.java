@@ -349,7 +349,7 @@ public final class FollowTheSun {
         if (pieces.count == 0) {
             return NONE;
         }
-        int hour = endsFromNow();
+        int hour = walk.runToEnd(fromNow(), LAST_HOUR);
         if (hour != NEVER) {
             tellEnd(state.allHandings(), state.allLost(), state.pay);
         }
@@ -360,7 +360,7 @@ public final class FollowTheSun {
         if (pieces.count == 0) {
             return NONE;
         }
-        trial.copyFrom(state);
+        fromNow();
         for (int h = trial.now; h < LAST_HOUR && trial.done != pieces.all(); h++) {
             int asked = walk.readyPieces(trial) & ~trial.waits;
             walk.hourGoesBy(trial);
@@ -463,7 +463,7 @@ public final class FollowTheSun {
         int bestHour = LAST_HOUR + 1;
         walk.byRule = false;
         for (int way = 0; way < all; way++) {
-            trial.startAll(this.pieces, hour);
+            begunAt(hour);
             houseTrial(pieces, way);
             int found = walk.runToEnd(trial, bestHour - 1);
             if (found != NEVER) {
@@ -507,7 +507,7 @@ public final class FollowTheSun {
                 continue;
             }
             pairs.bringTogether(earth, bits);
-            int found = endsBegun(hour, bestHour);
+            int found = walk.runToEnd(begunAt(hour), bestHour);
             pairs.takeBack(earth, bits);
             if (found == NEVER) {
                 continue;
@@ -534,13 +534,13 @@ public final class FollowTheSun {
         if (pairs.count == 0) {
             return NEVER;
         }
-        int without = endsBegun(hour, LAST_HOUR);
+        int without = walk.runToEnd(begunAt(hour), LAST_HOUR);
         int best = 0;
         int most = NO_END;
         numbers.clear();
         for (int i = 0; i < pairs.count; i++) {
             pairs.bringTogether(earth, 1 << i);
-            int with = endsBegun(hour, LAST_HOUR);
+            int with = walk.runToEnd(begunAt(hour), LAST_HOUR);
             pairs.takeBack(earth, 1 << i);
             int sooner = later(with, without);
             numbers.tell(sooner);
@@ -616,7 +616,7 @@ public final class FollowTheSun {
         if (!isHour(hour) || earth.count >= MOST_OFFICES || pieces.count == 0) {
             return NONE;
         }
-        int without = endsBegun(hour, LAST_HOUR);
+        int without = walk.runToEnd(begunAt(hour), LAST_HOUR);
         int number = earth.count;
         earth.count = number + 1;
         earth.putKnownToAll(number, v);
@@ -625,7 +625,7 @@ public final class FollowTheSun {
         for (int zone = 0; zone < HOURS_OF_DAY; zone++) {
             earth.offices[number].settle(zone * HOURS_OF_DAY + SITE_FROM, length, SITE_PAY, pc);
             earth.refresh(number, 0, TABLE_HOURS);
-            int found = endsBegun(hour, bestHour - 1);
+            int found = walk.runToEnd(begunAt(hour), bestHour - 1);
             if (found != NEVER) {
                 best = zone;
                 bestHour = found;
@@ -652,7 +652,7 @@ public final class FollowTheSun {
         home.crafts = ALL_CRAFTS;
         walk.byRule = false;
         walk.asking = false;
-        trial.startAll(pieces, hour);
+        begunAt(hour);
         Arrays.fill(trial.at, office);
         int found = walk.runToEnd(trial, LAST_HOUR);
         walk.asking = true;
@@ -672,9 +672,9 @@ public final class FollowTheSun {
         if (earth.offices[office].feasts[day]) {
             return FEAST_ALREADY;
         }
-        int without = endsFromNow();
+        int without = walk.runToEnd(fromNow(), LAST_HOUR);
         earth.putFeast(office, day, true);
-        int with = endsFromNow();
+        int with = walk.runToEnd(fromNow(), LAST_HOUR);
         earth.putFeast(office, day, false);
         return later(without, with);
     }
@@ -690,7 +690,7 @@ public final class FollowTheSun {
                 continue;
             }
             earth.putFeast(office, day, true);
-            int found = endsFromNow();
+            int found = walk.runToEnd(fromNow(), LAST_HOUR);
             earth.putFeast(office, day, false);
             if (found != NEVER && found > latest) {
                 worstDay = day;
@@ -708,14 +708,14 @@ public final class FollowTheSun {
         if (!earth.has(office) || !isHour(hour) || pieces.count == 0) {
             return NONE;
         }
-        int without = endsFromNow();
+        int without = walk.runToEnd(fromNow(), LAST_HOUR);
         Office marched = earth.offices[office];
         int wasHour = marched.clockHour;
         int wasBy = marched.clockBy;
         marched.clockHour = hour;
         marched.clockBy = 1;
         earth.refresh(office, 0, TABLE_HOURS);
-        int with = endsFromNow();
+        int with = walk.runToEnd(fromNow(), LAST_HOUR);
         marched.clockHour = wasHour;
         marched.clockBy = wasBy;
         earth.refresh(office, 0, TABLE_HOURS);
@@ -799,16 +799,16 @@ public final class FollowTheSun {
         return first == NEVER || second == NEVER ? NO_END : second - first;
     }
 
-    /** The end from the state as it is, run on the trial. */
-    private int endsFromNow() {
+    /** The state as it is, to be tried. */
+    private State fromNow() {
         trial.copyFrom(state);
-        return walk.runToEnd(trial, LAST_HOUR);
+        return trial;
     }
 
-    /** The end of a new begin at an hour, run on the trial; one behind the limit is not looked for. */
-    private int endsBegun(int hour, int limit) {
+    /** The state as of a new begin at an hour, to be tried. */
+    private State begunAt(int hour) {
         trial.startAll(pieces, hour);
-        return walk.runToEnd(trial, limit);
+        return trial;
     }
 
     /** The row of an end that the trial has just reached, less what there was ahead of it. */
@@ -1153,10 +1153,10 @@ public final class FollowTheSun {
             }
         }
 
-        private void handReady(State s, int open, int closing) {
+        private void handReady(State s, int ready, int closing) {
             int next = s.now + 1;
             for (int i = 0; i < pieces.count; i++) {
-                if (((open >> i) & 1) == 0 || ((closing >> s.at[i]) & 1) == 0) {
+                if (((ready >> i) & 1) == 0 || ((closing >> s.at[i]) & 1) == 0) {
                     continue;
                 }
                 int best = 0;
@@ -1366,8 +1366,8 @@ public final class FollowTheSun {
         final int[] code = new int[MOST_RULE_SIGNS];
         int length = 0;
         // Operators and open brackets whose right end is not read yet.
-        private final int[] open = new int[MOST_RULE_SIGNS];
-        private int openCount = 0;
+        private final int[] pending = new int[MOST_RULE_SIGNS];
+        private int pendingCount = 0;
         private int depth = 0;
         // Whether there is a comparison already that another one would stand behind, by brackets.
         private final boolean[] compared = new boolean[MOST_DEPTH + 1];
@@ -1377,7 +1377,7 @@ public final class FollowTheSun {
         /** NONE if it is a rule, else the place of the sign that can't stand there. */
         int read(char[] text, int count) {
             length = 0;
-            openCount = 0;
+            pendingCount = 0;
             depth = 0;
             compared[0] = false;
             thingDue = true;
@@ -1398,7 +1398,7 @@ public final class FollowTheSun {
 
         private boolean takeThing(char sign) {
             if (sign == '!' || sign == '-') {
-                putOpen(sign == '-' ? UNARY_MINUS : sign);
+                putPending(sign == '-' ? UNARY_MINUS : sign);
                 return true;
             }
             if (sign == '(') {
@@ -1423,7 +1423,7 @@ public final class FollowTheSun {
             }
             depth++;
             compared[depth] = false;
-            putOpen('(');
+            putPending('(');
             return true;
         }
 
@@ -1444,7 +1444,7 @@ public final class FollowTheSun {
                 compared[depth] = compares;
             }
             closeDownTo(level);
-            putOpen(sign);
+            putPending(sign);
             thingDue = true;
             return true;
         }
@@ -1463,19 +1463,19 @@ public final class FollowTheSun {
                 return false;
             }
             closeDownTo(0);
-            openCount = openCount > 0 ? openCount - 1 : 0;
+            pendingCount = pendingCount > 0 ? pendingCount - 1 : 0;
             depth--;
             return true;
         }
 
         /** Operators that bind at least so much are complete, as far as the last open bracket. */
         private void closeDownTo(int level) {
-            for (int i = openCount - 1; i >= 0; i--) {
-                if (open[i] == '(' || levelOf(open[i]) < level) {
+            for (int i = pendingCount - 1; i >= 0; i--) {
+                if (pending[i] == '(' || levelOf(pending[i]) < level) {
                     return;
                 }
-                putCode(OPERATOR_CODE + open[i]);
-                openCount = i;
+                putCode(OPERATOR_CODE + pending[i]);
+                pendingCount = i;
             }
         }
 
@@ -1486,10 +1486,10 @@ public final class FollowTheSun {
             }
         }
 
-        private void putOpen(int sign) {
-            if (openCount < open.length) {
-                open[openCount] = sign;
-                openCount++;
+        private void putPending(int sign) {
+            if (pendingCount < pending.length) {
+                pending[pendingCount] = sign;
+                pendingCount++;
             }
         }
 

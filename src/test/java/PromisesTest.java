@@ -790,6 +790,20 @@ public final class PromisesTest {
         due("23: two handings", y.one(0, 0, 2), 3);
         dueRow("23: two handings", y, 2, 1, 2);
         due("23: one handing", y.one(0, 0, 1), 11);
+        FollowTheSun z = meetingOnce();
+        due("23: lost from the next hour on", z.one(0, 15, 1), 17);
+        due("23: an hour later", z.one(0, 16, 1), 20);
+    }
+
+    /** Two offices that know all of one another and are both at work in hour 16, then in 64. */
+    private static FollowTheSun meetingOnce() {
+        FollowTheSun x = new FollowTheSun();
+        x.office(9, 8, 1, 66);
+        x.office(16, 8, 1, 65);
+        x.know(0, 1, 9);
+        x.feast(1, 1, true);
+        piece(x, 0, 1, 0);
+        return x;
     }
 
     private static void promise24() {
@@ -827,6 +841,9 @@ public final class PromisesTest {
         piece(y, 0, 8, 0);
         due("24: of equal ones the least row", y.cheap(0, 0, 2, 48), 32);
         dueRow("24: the least row", y, 1, 2);
+        FollowTheSun z = meetingOnce();
+        due("24: lost from the next hour on", z.cheap(0, 15, 1, 17), 1);
+        due("24: an hour later", z.cheap(0, 16, 1, 40), 3);
         y.set(0, 2);
         due("24: of equal ones the fewest", y.cheap(0, 0, 2, 48), 40);
         dueRow("24: the fewest", y, 0);
@@ -887,6 +904,18 @@ public final class PromisesTest {
         due("26: piece", x.lie(5, 9), NONE);
         due("26: hour", x.lie(0, -1), NONE);
         dueRow("26: they tell nothing", x, 20, 1);
+        FollowTheSun y = late(9);
+        due("26: by 2399", y.lie(0, 2380), 0);
+        dueRow("26: by 2399", y, 2399, 0);
+        due("26: not by 2400", late(10).lie(0, 2380), -2);
+    }
+
+    /** One office, at work in the last ten hours of a day, and one piece there. */
+    private static FollowTheSun late(int length) {
+        FollowTheSun x = new FollowTheSun();
+        x.office(14, 10, 1, 65);
+        piece(x, 0, length, 0);
+        return x;
     }
 
     private static void promise27() {
@@ -918,6 +947,8 @@ public final class PromisesTest {
         due("27: five", y.homes(31, 0), NONE);
         due("27: three", y.homes(22, 0), 6);
         dueRow("27: by numbers", y, 0, 1, 1);
+        due("27: by 2399", late(9).homes(1, 2380), 2399);
+        due("27: not by 2400", late(10).homes(1, 2380), -2);
     }
 
     private static void promise28() {
@@ -1127,6 +1158,8 @@ public final class PromisesTest {
         dueRow("34: that tells nothing", y, 18, NONE);
         rule(y, "");
         due("34: nothing is handed", y.site(16, 64 + 32, 9, 9), -2);
+        due("34: by 2399", late(9).site(1, 65, 0, 2380), 0);
+        due("34: not by 2400", late(10).site(1, 65, 0, 2380), -2);
         for (int i = 2; i < 6; i++) {
             big(y, 0, 1);
         }
