@@ -233,6 +233,44 @@ final class HourBoundaries extends Sentences {
         }
     }
 
+    @Says("of an OFFICE that a PIECE could go to from where it is, from the next HOUR on")
+    void ruleFromTheNextHour() {
+        FollowTheSun x = new FollowTheSun();
+        plain(x, 0, 8);
+        plain(x, 7, 1);
+        plain(x, 9, 1);
+        plain(x, 8, 1);
+        piece(x, 0, 60, 0);
+        rule(x, "w");
+        x.go(8);
+        due("the one AT WORK at 8", x.of(0, 0), 3);
+    }
+
+    /** Office 0 closes behind hour 0; it meets office 1 at 0, 24, 48 .. */
+    private static FollowTheSun closing() {
+        FollowTheSun x = new FollowTheSun();
+        plain(x, 0, 1);
+        plain(x, 0, 16);
+        piece(x, 0, 60, 0);
+        rule(x, "n");
+        return x;
+    }
+
+    @Says("of an OFFICE that a PIECE could go to from where it is, from the next HOUR on")
+    void lostFromTheNextHour() {
+        FollowTheSun x = closing();
+        x.go(1);
+        due("they meet in 1 .. 24", x.of(0, 7), 4);
+        FollowTheSun y = closing();
+        y.feast(0, 1, true);
+        y.go(1);
+        due("they met at 0, not in 1 .. 24", y.of(0, 7), 6);
+        FollowTheSun z = closing();
+        z.clock(0, 10, -1);
+        z.go(1);
+        due("they meet at 25, not in 1 .. 24", z.of(0, 7), 6);
+    }
+
     @Says("if that is another one, it is HANDED: LEFT grows by LOST.")
     void handedToAnother() {
         FollowTheSun x = two();

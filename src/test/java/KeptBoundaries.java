@@ -37,9 +37,19 @@ final class KeptBoundaries extends Sentences {
         x.hand(1, 0);
         x.go(200);
         x.begin(50);
-        x.go(7);
         x.again(2);
         dueSame("again", seen(x), before);
+        x.begin(50);
+        x.set(1, 77);
+        x.hand(0, 1);
+        x.set(1, 10);
+        x.again(2);
+        dueSame("the WRONG that was kept", seen(x), before);
+        x.hand(0, 0);
+        x.hand(0, 1);
+        x.go(7);
+        x.again(2);
+        dueSame("again, twice", seen(x), before);
     }
 
     @Says(promise = 40, value = "They are as they were kept under a number. Refused: nothing kept, a PIECE was told since.")
@@ -176,6 +186,76 @@ final class KeptBoundaries extends Sentences {
         due("not empty", x.count(9), 60);
         due("read, too long", x.rule(), -41);
         due("empty", x.count(9), 0);
+    }
+
+    /** Six offices that are alike, eight pieces at the last, nine pairs, a rule of 40 signs. */
+    private static FollowTheSun allFull() {
+        FollowTheSun x = new FollowTheSun();
+        for (int i = 0; i < 6; i++) {
+            x.office(0, 16, 1, 639);
+        }
+        for (int i = 0; i < 8; i++) {
+            piece(x, 5, 2, 5);
+        }
+        for (int i = 0; i < 9; i++) {
+            x.pair(i < 5 ? 5 : 4, i < 5 ? i : i - 5, 99);
+        }
+        rule(x, "-".repeat(39) + "n");
+        return x;
+    }
+
+    @Says("PIECES 0 .. (at most 8)")
+    void allIsFull() {
+        FollowTheSun x = allFull();
+        due("value", x.value(7, 5), -5);
+        due("dark", x.dark(5, 0), 8);
+        dueRow(x, 16, 6, 0);
+        due("sheet", x.sheet(5, 2, 6, 4, 1), 4 + 5 + 6 + 7 + 8);
+        due("ends", x.ends(), 2);
+        dueRow(x, 2, 2, 2, 2, 2, 2, 2, 2, 0, 0, 16);
+        due("judge", x.judge(), -2);
+        due("one", x.one(7, 0, 3), 2);
+        dueRow(x, 0);
+        due("cheap", x.cheap(7, 0, 2, 2), 2);
+        dueRow(x, 0);
+        due("edge", x.edge(7, 0, 3), 0);
+        dueRow(x, 2);
+        due("lie", x.lie(7, 0), 0);
+        dueRow(x, 2, 0);
+        due("homes", x.homes(240, 0), 2);
+        dueRow(x, 0, 0, 0, 0);
+        due("whom", x.whom(999, 0), 2);
+        dueRow(x, 0, 0);
+        due("worth", x.worth(0), 0);
+        dueRow(x, 0, 0, 0, 0, 0, 0, 0, 0, 0);
+        due("site", x.site(16, 639, 9, 0), NONE);
+        due("together", x.together(5, 0), 2);
+        dueRow(x, 2, 2, 2, 2, 2, 2, 2, 2, 0, 0, 16);
+        due("worst", x.worst(5, 0, 99), 0);
+        dueRow(x, 26);
+        due("sleeps", x.sleeps(5, 0), 24);
+        due("march", x.march(5, 0), 0);
+    }
+
+    @Says("PIECES 0 .. (at most 8)")
+    void allIsFullOnTheWay() {
+        FollowTheSun x = allFull();
+        x.begin(15);
+        x.go(1);
+        // All are handed to the first, as 0 is more than -1 .. -5: four LOST, five LEFT.
+        for (int i = 0; i < 8; i++) {
+            due("where", x.of(i, 0), 0);
+            due("LEFT", x.of(i, 1), 5);
+        }
+        due("HANDINGS", x.count(5), 8);
+        due("hours LOST", x.count(6), 32);
+        due("PAY", x.count(7), 8);
+        due("kept", x.mean(10), 8);
+        dueRow(x, 8, 1);
+        due("ends", x.ends(), 29);
+        dueRow(x, 29, 29, 29, 29, 29, 29, 29, 29, 0, 0, 40);
+        x.go(500);
+        due("DONE", x.count(3), 255);
     }
 
     @Says("An object is used for at most 512 calls after it has been made")

@@ -22,6 +22,74 @@ final class OneBoundaries extends Sentences {
         dueRow(x, 3, 1, 0, 1);
     }
 
+    @Says(promise = 23, value = "where it is BORN, LENGTH LEFT: behind any HOUR it may be handed to another OFFICE")
+    void oneBornElsewhere() {
+        FollowTheSun x = two();
+        piece(x, 0, 10, 1);
+        due("not handed", x.one(0, 21, 0), 47);
+        dueRow(x, 0);
+        due("handed to 0", x.one(0, 21, 1), 41);
+        dueRow(x, 1, 0);
+        due("cheap", x.cheap(0, 21, 1, 100), 50);
+        dueRow(x, 0);
+        due("cheap by 41", x.cheap(0, 21, 1, 41), 8 * 5 + 8 * 10);
+        dueRow(x, 1, 0);
+        // Two LEFT, 2 apart and LOSE: within eight hours in 33 .. 40.
+        due("edge", x.edge(0, 21, 1), 5);
+        dueRow(x, 47);
+    }
+
+    @Says(promise = 23, value = "at most k times (0 .. 3), also back")
+    void oneOfAllRows() {
+        FollowTheSun x = new FollowTheSun();
+        for (int i = 0; i < 4; i++) {
+            x.office(0, 8, 1, 66);
+        }
+        x.office(9, 8, 1, 65);
+        x.office(21, 8, 1, 65);
+        x.set(0, 0);
+        piece(x, 0, 24, 0);
+        // Of the 156 rows the last: 24 LEFT at 21, 18 at 33, 12 at 45, and four from 69 on.
+        due("6 offices, 3 handings", x.one(0, 20, 3), 73);
+        dueRow(x, 3, 5, 4, 5);
+        FollowTheSun y = new FollowTheSun();
+        for (int i = 0; i < 6; i++) {
+            y.office(0, 16, 1, i == 4 ? 65 : 66);
+        }
+        y.set(0, 9);
+        y.know(0, 5, 9);
+        y.know(5, 4, 9);
+        piece(y, 0, 1, 0);
+        due("6 offices, the last of 31 rows", y.cheap(0, 0, 2, 20), 1);
+        dueRow(y, 2, 5, 4);
+    }
+
+    /** Nothing is LOST from 0 to 1 but what they are apart; they meet at 0, 24, 48 .. */
+    private static FollowTheSun meeting() {
+        FollowTheSun x = new FollowTheSun();
+        x.office(0, 1, 1, 66);
+        x.office(0, 16, 1, 65);
+        x.know(0, 1, 9);
+        piece(x, 0, 1, 0);
+        return x;
+    }
+
+    @Says(promise = 23, value = "LOST from the next HOUR on comes to LEFT")
+    void oneLostFromNextHour() {
+        FollowTheSun x = meeting();
+        due("they meet in 1 .. 24", x.one(0, 0, 1), 2);
+        due("cheap", x.cheap(0, 0, 1, 2), 1);
+        x.feast(0, 1, true);
+        due("they do not meet in 1 .. 24", x.one(0, 0, 1), 4);
+        due("cheap", x.cheap(0, 0, 1, 2), -2);
+        due("cheap", x.cheap(0, 0, 1, 4), 3);
+        FollowTheSun y = meeting();
+        y.clock(0, 10, -1);
+        due("they meet in 2 .. 25", y.one(0, 0, 1), 3);
+        due("cheap", y.cheap(0, 0, 1, 2), -2);
+        due("cheap", y.cheap(0, 0, 1, 3), 1);
+    }
+
     @Says(promise = 23, value = "the soonest HOUR by which it could be DONE, by 2399")
     void oneByTheLastHour() {
         FollowTheSun x = late(9);
@@ -147,6 +215,17 @@ final class OneBoundaries extends Sentences {
         x.feast(1, 2, true);
         due("the next", x.cheap(0, 0, 2, 40), 14);
         dueRow(x, 1, 2);
+        x.set(0, 4);
+        due("the fewest again", x.cheap(0, 0, 2, 40), 16);
+        dueRow(x, 0);
+        FollowTheSun y = new FollowTheSun();
+        y.office(0, 16, 9, 65);
+        y.office(0, 16, 5, 65);
+        y.office(0, 16, 4, 65);
+        y.set(0, 1);
+        piece(y, 0, 3, 0);
+        due("the cheaper, not the least row", y.cheap(0, 0, 2, 40), 16);
+        dueRow(y, 1, 2);
     }
 
     @Says(promise = 24, value = "It need not be worked while its OFFICE is AT WORK.")
@@ -214,6 +293,21 @@ final class OneBoundaries extends Sentences {
         }
     }
 
+    @Says(promise = 25, value = "the least such for which that is so of all from it on; the ROW: the HOUR without")
+    void edgeByOne() {
+        FollowTheSun x = new FollowTheSun();
+        plain(x, 5, 1);
+        plain(x, 0, 16);
+        piece(x, 0, 1, 0);
+        // Handed behind 0 it is DONE by 2 and LOSE; at 5 it would be DONE by 6.
+        due("sooner by an hour with LOSE 3", x.edge(0, 0, 1), 4);
+        dueRow(x, 6);
+        due("sooner by an hour with LOSE 0", x.edge(0, 3, 1), 1);
+        dueRow(x, 6);
+        due("no sooner with LOSE 0", x.edge(0, 4, 1), 0);
+        dueRow(x, 6);
+    }
+
     @Says(promise = 25, value = "-2: also at 20 it is sooner (the HOUR without told, too)")
     void edgeNone() {
         FollowTheSun x = rare(12);
@@ -279,6 +373,9 @@ final class OneBoundaries extends Sentences {
         // Worked at 0, it waits as 1, 2 and 3 begin, and is worked at 24.
         due("lie", x.lie(0, 0), 0);
         dueRow(x, 25, 3);
+        // Worked at 3, it waits as 4 .. 27 begin, also while the one it asks is AT WORK alone.
+        due("lie at 3", x.lie(0, 3), 0);
+        dueRow(x, 49, 24);
         x.piece(6 * 2, 2, 0, 0, 1);
         due("DONE ahead of asking", x.lie(1, 0), 0);
         dueRow(x, 2, 0);

@@ -26,6 +26,12 @@ final class PairBoundaries extends Sentences {
         due("of eight, four", y.homes(240, 9), 17);
         due("of eight, five", y.homes(248, 9), NONE);
         due("a ninth", y.homes(256, 9), NONE);
+        FollowTheSun z = two();
+        for (int i = 0; i < 8; i++) {
+            piece(z, i == 7 ? 1 : 0, 1, 0);
+        }
+        due("the last of eight has one home", z.homes(129, 9), 22);
+        dueRow(z, 0, 1);
     }
 
     @Says(promise = 27, value = "of all ways that with which ends(), begun at an HOUR, is the soonest; of equal ones the least row")

@@ -96,7 +96,7 @@ final class RuleBoundaries extends Sentences {
         }
     }
 
-    @Says("| binds least, then &, then < > =, then + - (from the left), then * (from the left), then ! and - ahead of a thing (any many)")
+    @Says("then + - (from the left), then * (from the left), then ! and - ahead of a thing (any many)")
     void binding() {
         FollowTheSun x = two();
         piece(x, 0, 9, 0);

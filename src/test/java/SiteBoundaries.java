@@ -117,7 +117,7 @@ final class SiteBoundaries extends Sentences {
         due("they are as they were", y.ends(), -2);
     }
 
-    @Says(promise = 35, value = "all PIECES are BORN at an OFFICE, THE RULE is none, none ASKS: ends(), begun at an HOUR; the ROW: as ends()")
+    @Says(promise = 35, value = "THE RULE is none, none ASKS: ends(), begun at an HOUR; the ROW: as ends().")
     void togetherAlone() {
         FollowTheSun x = two();
         x.piece(6, 10, 0, 1, 1);
@@ -297,6 +297,8 @@ final class SiteBoundaries extends Sentences {
         x.clock(0, 17, -1);
         // 9 .. 17, then from 34 on: DONE by 35; put forward from 17 on: by 34.
         due("instead of it", x.march(0, 17), -1);
+        due("from another hour on", x.march(0, 0), 0);
+        due("its clock stays", x.open(0, 9), 1);
         due("its clock stays", x.open(0, 17), 1);
         due("its clock stays", x.open(0, 33), 0);
         FollowTheSun y = two();

@@ -299,6 +299,7 @@ final class StateBoundaries extends Sentences {
         piece(x, 0, 9, 0);
         piece(x, 2, 9, 0);
         piece(x, 1, 9, 0);
+        x.dark(0, 0);
         due("judge", x.judge(), 0);
         dueRow(x, 1, 2);
     }
