@@ -14,8 +14,10 @@ public final class FollowTheSun {
     private static final int FEAST_ALREADY = -9998;
 
     private static final int LAST_HOUR = 2399;
+    private static final int BITS_OF_LONG = 64;
     // A value asked at the last hour looks as far as 98 hours behind hour 2400.
-    private static final int TABLE_HOURS = 2500;
+    private static final int TABLE_LONGS = 40;
+    private static final int TABLE_HOURS = TABLE_LONGS * BITS_OF_LONG;
     private static final int HOURS_OF_DAY = 24;
     private static final int WHOLE_DAY = (1 << HOURS_OF_DAY) - 1;
     private static final int MOST_DAYS = 100;
@@ -185,14 +187,14 @@ public final class FollowTheSun {
         if (!earth.has(a) || !earth.has(b) || !isHour(hour)) {
             return NONE;
         }
-        return earth.overlapFrom(a, b, hour);
+        return Integer.bitCount(earth.bothFrom(a, b, hour));
     }
 
     public int loses(int a, int b, int hour) {
         if (!earth.has(a) || !earth.has(b) || !isHour(hour)) {
             return NONE;
         }
-        return earth.lostFrom(a, b, hour);
+        return earth.lostBy(a, b, earth.bothFrom(a, b, hour));
     }
 
     public int dark(int craft, int hour) {
@@ -382,7 +384,7 @@ public final class FollowTheSun {
             return NONE;
         }
         ways.grow(pieces.born[piece], k);
-        int soonest = ways.soonest(pieces, piece, hour, earth.lose, LAST_HOUR);
+        int soonest = ways.soonest(pieces, piece, hour, LAST_HOUR);
         if (soonest != NEVER) {
             ways.tellBest(numbers);
         }
@@ -410,19 +412,22 @@ public final class FollowTheSun {
         }
         int born = pieces.born[piece];
         ways.grow(born, 0);
-        int without = ways.soonest(pieces, piece, hour, earth.lose, LAST_HOUR);
+        int without = ways.soonest(pieces, piece, hour, LAST_HOUR);
         if (without == NEVER) {
             return NONE;
         }
         numbers.clear();
         numbers.tell(without);
         ways.grow(born, k);
-        for (int lose = MOST_LOSE; lose >= 0; lose--) {
-            if (ways.soonest(pieces, piece, hour, lose, without - 1) != NEVER) {
-                return lose == MOST_LOSE ? NEVER : lose + 1;
-            }
+        int was = earth.lose;
+        int edge = 0;
+        for (int lose = MOST_LOSE; lose >= 0 && edge == 0; lose--) {
+            earth.lose = lose;
+            boolean sooner = ways.soonest(pieces, piece, hour, without - 1) != NEVER;
+            edge = sooner ? lose + 1 : 0;
         }
-        return 0;
+        earth.lose = was;
+        return edge > MOST_LOSE ? NEVER : edge;
     }
 
     public int lie(int piece, int hour) {
@@ -883,8 +888,8 @@ public final class FollowTheSun {
         final int[] known = new int[MOST_OFFICES * MOST_OFFICES];
         // Of each hour the offices at work, as bits: the walks look there again and again.
         final int[] work = new int[TABLE_HOURS];
-        // Of each office and hour: in which of the 24 hours from it on it is at work, as bits.
-        final int[] ahead = new int[MOST_OFFICES * TABLE_HOURS];
+        // Of each office the same hours, as bits of its longs: a stretch of them is soon looked up.
+        private final long[] hours = new long[MOST_OFFICES * TABLE_LONGS];
         int count = 0;
         int lose = 4;
         int miss = 10;
@@ -901,16 +906,27 @@ public final class FollowTheSun {
         }
 
         void refresh(int office, int from, int to) {
-            int bit = 1 << office;
+            int officeBit = 1 << office;
             for (int h = Math.max(from, 0); h < to && h < TABLE_HOURS; h++) {
-                work[h] = offices[office].atWork(h) ? work[h] | bit : work[h] & ~bit;
+                int at = office * TABLE_LONGS + h / BITS_OF_LONG;
+                long hourBit = 1L << (h % BITS_OF_LONG);
+                boolean works = offices[office].atWork(h);
+                work[h] = works ? work[h] | officeBit : work[h] & ~officeBit;
+                hours[at] = works ? hours[at] | hourBit : hours[at] & ~hourBit;
             }
-            int first = office * TABLE_HOURS;
-            int last = Math.min(to, TABLE_HOURS) - 1;
-            for (int h = last; h >= 0 && h > from - HOURS_OF_DAY; h--) {
-                int behind = h + 1 < TABLE_HOURS ? ahead[first + h + 1] << 1 : 0;
-                ahead[first + h] = (behind & WHOLE_DAY) | ((work[h] >> office) & 1);
+        }
+
+        /** In which of the 24 hours from one on both offices are at work, as bits. */
+        int bothFrom(int a, int b, int hour) {
+            int at = hour / BITS_OF_LONG;
+            int gone = hour % BITS_OF_LONG;
+            int ofA = a * TABLE_LONGS + at;
+            int ofB = b * TABLE_LONGS + at;
+            long both = (hours[ofA] & hours[ofB]) >>> gone;
+            if (gone > BITS_OF_LONG - HOURS_OF_DAY && at + 1 < TABLE_LONGS) {
+                both |= (hours[ofA + 1] & hours[ofB + 1]) << (BITS_OF_LONG - gone);
             }
+            return (int) both & WHOLE_DAY;
         }
 
         void putFeast(int office, int day, boolean is) {
@@ -950,17 +966,12 @@ public final class FollowTheSun {
             return sum;
         }
 
-        int overlapFrom(int a, int b, int hour) {
-            return Integer.bitCount(ahead[a * TABLE_HOURS + hour] & ahead[b * TABLE_HOURS + hour]);
-        }
-
-        int lostFrom(int a, int b, int hour) {
+        /** What is lost from one office to another one that are both at work in these hours. */
+        int lostBy(int a, int b, int both) {
             if (a == b) {
                 return 0;
             }
-            int less = lose - known[a * MOST_OFFICES + b];
-            int lost = less > 0 ? less : 0;
-            int both = ahead[a * TABLE_HOURS + hour] & ahead[b * TABLE_HOURS + hour];
+            int lost = Math.max(lose - known[a * MOST_OFFICES + b], 0);
             return both == 0 ? lost + LOST_APART : lost;
         }
 
@@ -970,11 +981,9 @@ public final class FollowTheSun {
 
         /** In how many hours from one on an office is at work next. */
         int nextWork(int office, int hour) {
-            int first = office * TABLE_HOURS + hour;
-            for (int i = 0; i < FARTHEST_WORK && hour + i < TABLE_HOURS; i += HOURS_OF_DAY) {
-                if (ahead[first + i] != 0) {
-                    int next = i + Integer.numberOfTrailingZeros(ahead[first + i]);
-                    return next < FARTHEST_WORK ? next : FARTHEST_WORK;
+            for (int i = 0; i < FARTHEST_WORK && hour + i < TABLE_HOURS; i++) {
+                if (((work[hour + i] >> office) & 1) == 1) {
+                    return i;
                 }
             }
             return FARTHEST_WORK;
@@ -1176,7 +1185,7 @@ public final class FollowTheSun {
 
         int handTo(State s, int piece, int office, int hour) {
             int from = s.at[piece];
-            int lost = earth.lostFrom(from, office, hour);
+            int lost = earth.lostBy(from, office, earth.bothFrom(from, office, hour));
             s.at[piece] = office;
             s.left[piece] += lost;
             s.lost[piece] += lost;
@@ -1210,9 +1219,9 @@ public final class FollowTheSun {
                 case 'k':
                     return earth.known[at * MOST_OFFICES + office];
                 case 'l':
-                    return earth.lostFrom(at, office, hour);
+                    return earth.lostBy(at, office, earth.bothFrom(at, office, hour));
                 case 'o':
-                    return earth.overlapFrom(at, office, hour);
+                    return Integer.bitCount(earth.bothFrom(at, office, hour));
                 case 'w':
                     return (earth.work[hour] >> office) & 1;
                 case 'r':
@@ -1569,7 +1578,7 @@ public final class FollowTheSun {
         }
 
         /** The soonest hour to the limit, and in best its row; NEVER if there is none. */
-        int soonest(Pieces pieces, int piece, int hour, int lose, int limit) {
+        int soonest(Pieces pieces, int piece, int hour, int limit) {
             int able = earth.officesWith(pieces.craft[piece]);
             if (able == 0) {
                 return NEVER;
@@ -1585,7 +1594,7 @@ public final class FollowTheSun {
                         return h + 1;
                     }
                 }
-                loseFrom(h + 1, lose);
+                loseFrom(h + 1);
                 // From the last on: a row must not be handed twice behind one hour.
                 for (int n = count - 1; n > 0; n--) {
                     int p = parent[n];
@@ -1609,7 +1618,7 @@ public final class FollowTheSun {
                         workForPay(i);
                     }
                 }
-                loseFrom(h + 1, earth.lose);
+                loseFrom(h + 1);
                 // From the last on, as for the soonest.
                 for (int i = n - 1; i > 0; i--) {
                     handForPay(i);
@@ -1645,15 +1654,12 @@ public final class FollowTheSun {
             }
         }
 
-        /** What is lost between all offices from an hour on, if it was for that LOSE. */
-        private void loseFrom(int hour, int lose) {
-            int[] ahead = earth.ahead;
+        /** What is lost between all offices from an hour on. */
+        private void loseFrom(int hour) {
             for (int a = 0; a < earth.count; a++) {
-                for (int b = a + 1; b < earth.count; b++) {
+                for (int b = 0; b < a; b++) {
                     int ab = a * MOST_OFFICES + b;
-                    int both = ahead[a * TABLE_HOURS + hour] & ahead[b * TABLE_HOURS + hour];
-                    int less = lose - earth.known[ab];
-                    lost[ab] = (less > 0 ? less : 0) + (both == 0 ? LOST_APART : 0);
+                    lost[ab] = earth.lostBy(a, b, earth.bothFrom(a, b, hour));
                     lost[b * MOST_OFFICES + a] = lost[ab];
                 }
             }

@@ -302,6 +302,30 @@ final class OfficeBoundaries extends Sentences {
         due("hour 2400", x.overlap(0, 1, 2400), NONE);
     }
 
+    @Says(promise = 9, value = "OVERLAP of two OFFICES from an HOUR on.")
+    void overlapHourByHour() {
+        for (int begin = 0; begin <= LAST; begin += 200) {
+            FollowTheSun x = new FollowTheSun();
+            plain(x, 5, 11);
+            plain(x, 13, 16);
+            x.clock(0, begin + 60, 1);
+            x.clock(1, begin + 70, -1);
+            x.feast(0, begin / 24 + 2, true);
+            x.feast(1, begin / 24 + 5, true);
+            boolean[] both = new boolean[200];
+            for (int i = 0; i < both.length; i++) {
+                both[i] = x.open(0, begin + i) == 1 && x.open(1, begin + i) == 1;
+            }
+            for (int i = 0; i + 24 <= both.length; i += 3) {
+                int n = 0;
+                for (int j = i; j < i + 24; j++) {
+                    n += both[j] ? 1 : 0;
+                }
+                due("from " + (begin + i), x.overlap(0, 1, begin + i), n);
+            }
+        }
+    }
+
     @Says(promise = 10, value = "LOST from one OFFICE to another one from an HOUR on (0 of one and itself). NONE: others.")
     void losesOfItself() {
         FollowTheSun x = two();

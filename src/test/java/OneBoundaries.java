@@ -313,6 +313,7 @@ final class OneBoundaries extends Sentences {
         FollowTheSun x = rare(12);
         due("also at 20", x.edge(0, 0, 1), -2);
         dueRow(x, 49);
+        due("LOSE stays", x.set(0, 4), 4);
         FollowTheSun y = rare(1);
         y.know(0, 1, 9);
         y.dark(0, 0);
