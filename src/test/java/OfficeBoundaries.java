@@ -304,19 +304,19 @@ final class OfficeBoundaries extends Sentences {
 
     @Says(promise = 9, value = "OVERLAP of two OFFICES from an HOUR on.")
     void overlapHourByHour() {
-        for (int begin = 0; begin <= LAST; begin += 200) {
+        for (int begin = 0; begin + 150 <= LAST; begin += 126) {
             FollowTheSun x = new FollowTheSun();
-            plain(x, 5, 11);
-            plain(x, 13, 16);
+            plain(x, 0, 16);
+            plain(x, 7, 10);
             x.clock(0, begin + 60, 1);
             x.clock(1, begin + 70, -1);
             x.feast(0, begin / 24 + 2, true);
             x.feast(1, begin / 24 + 5, true);
-            boolean[] both = new boolean[200];
+            boolean[] both = new boolean[150];
             for (int i = 0; i < both.length; i++) {
                 both[i] = x.open(0, begin + i) == 1 && x.open(1, begin + i) == 1;
             }
-            for (int i = 0; i + 24 <= both.length; i += 3) {
+            for (int i = 0; i + 24 <= both.length; i++) {
                 int n = 0;
                 for (int j = i; j < i + 24; j++) {
                     n += both[j] ? 1 : 0;
